@@ -932,10 +932,10 @@ public final class ShrugHills {
             start = next;
             if (next >= length) {
                 kind = ENDED;
-            } else if (isLetter(bytes[next])) {
+            } else if (bytes[next] >= 'a' && bytes[next] <= 'z') {
                 takeLetters();
                 word = size > NAME_LETTERS ? NONE : wordOf(name);
-            } else if (isDigit(bytes[next])) {
+            } else if (bytes[next] >= '0' && bytes[next] <= '9') {
                 takeDigits();
             } else {
                 kind = bytes[next];
@@ -946,17 +946,9 @@ public final class ShrugHills {
             }
         }
 
-        private static boolean isLetter(int sign) {
-            return sign >= 'a' && sign <= 'z';
-        }
-
-        private static boolean isDigit(int sign) {
-            return sign >= '0' && sign <= '9';
-        }
-
         private void takeLetters() {
             name = 0;
-            while (next < length && isLetter(bytes[next])) {
+            while (next < length && bytes[next] >= 'a' && bytes[next] <= 'z') {
                 if (next - start < NAME_LETTERS) {
                     name |= bytes[next] - 'a' + 1 << 5 * (next - start);
                 }
@@ -968,7 +960,7 @@ public final class ShrugHills {
 
         private void takeDigits() {
             value = 0;
-            while (next < length && isDigit(bytes[next])) {
+            while (next < length && bytes[next] >= '0' && bytes[next] <= '9') {
                 if (next - start < NUMBER_DIGITS) {
                     value = value * 10 + bytes[next] - '0';
                 }
@@ -1129,10 +1121,6 @@ public final class ShrugHills {
                 into.add(1);
                 return true;
             }
-            return comparison(open);
-        }
-
-        private boolean comparison(int open) {
             if (!sum(open)) {
                 return false;
             }
