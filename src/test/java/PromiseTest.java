@@ -9,6 +9,11 @@ public final class PromiseTest {
     private static final String PAIR = "plain 3 by 3;topic t;topic u;person p at 1 1 tired 0;person q at 0 0 tired 4;"
             + "knows q of t;asks p of t;asks q of u;";
 
+    /** All that a plain can have: p to v stand from 0 0 to 6 6, v alone is asked; he lifts 5 6. */
+    private static final String FULL = "plain 7 by 7;topic a;topic b;topic c;topic d;topic e;person p at 0 0 tired 0;"
+            + "person q at 1 1 tired 1;person r at 2 2 tired 2;person s at 3 3 tired 3;person t at 4 4 tired 4;"
+            + "person u at 5 5 tired 5;person v at 6 6 tired 6;knows u of e;" + "asks v of e;".repeat(12);
+
     private static int wrong;
     private static int checked;
 
@@ -193,6 +198,18 @@ public final class PromiseTest {
         due("tired+1", x.person(0, 2), 8);
         due("tired+1", x.asks(0, 0) * 10 + x.person(0, 2), 29);
         due("9 at most", x.asks(0, 0) * 10 + x.person(0, 2), 29);
+        String bare = "plain 3 by 3;topic t;person p at 1 1 tired 0;";
+        for (int k = 0; k < 4; k++) {
+            Tape.put(x, k < 2 ? bare + "knows p of t;asks p of t;high 0 0 9;lifts 9;tires 9;holds all;crowd 100;" : bare);
+            due("plain", x.plain(), k < 2 ? 10 : 3);
+        }
+        due("nothing is left of an older one", x.has(6) * 10 + x.has(4), 4500);
+        due("nothing is known", x.person(0, 3), 0);
+        x.seed(seedOf(0));
+        due("no crowd", x.chance(1) * 10 + x.has(7), 0);
+        due("never held", x.asks(0, 0), 2);
+        heights(x, 49, 49, 49, 53, 50, 53, 49, 49, 49);
+        due("tired+1", x.person(0, 2), 1);
     }
 
     private static void faultsOfTheText() {
@@ -292,6 +309,9 @@ public final class PromiseTest {
         faultBehind("lifts (((((min(1,2))))));", 0, NONE);
         faultBehind("lifts ((((((min(1,2)))))));", 4, 15);
         faultBehind("lifts ((((((min 1", 1, 16);
+        faultBehind("lifts min((((((1))))),(((((2))))));", 0, NONE);
+        faultBehind("lifts min(((((((1", 4, 15);
+        faultBehind("lifts max(1,((((((1", 4, 17);
         faultBehind("holds not not not not not not all;", 0, NONE);
         faultBehind("holds not not not not not not not all;", 4, 30);
         faultBehind("holds not not not not not not all and not not not not not not all;", 0, NONE);
@@ -364,6 +384,7 @@ public final class PromiseTest {
         }
         due("has 10", x.has(10), NONE);
         due("has -1", x.has(-1), NONE);
+        due("all 49", hills(FULL).has(6), 2450);
         x.days(1);
         Tape.put(x, 0, 0, 0, 1, 0, 1, 0, 2);
         x.see();
@@ -578,6 +599,20 @@ public final class PromiseTest {
         due("no cell -8", x.plan(0, 0, -8, NONE), NONE);
         due("k -2", x.plan(8, 53, 9, -2), NONE);
         due("all stays", x.height(0, 1), 50);
+        due("up to 99", hills(PAIR + "high 0 1 96;").plan(8, 99, 9, NONE), 1);
+        due("9 by one", hills(PAIR + "lifts 9;").plan(8, 59, 9, NONE), 1);
+        due("27 by three", hills(PAIR + "lifts 9;").plan(8, 77, 9, NONE), 3);
+        due("28 by none", hills(PAIR + "lifts 9;").plan(8, 78, 9, NONE), NONE);
+        ShrugHills full = hills(FULL);
+        due("v, a", full.plan(53, 53, 54, NONE), 1);
+        due("v, a", full.plan(53, 53, 54, 0), 48);
+        due("v three times", full.plan(53, 59, 54, 2), 48);
+        ShrugHills byTires = hills("plain 3 by 3;topic t;topic u;person p at 1 1 tired 0;lifts tired;tires topic*4;");
+        due("u, t", byTires.plan(8, 54, 9, NONE), 2);
+        due("u", byTires.plan(8, 54, 9, 0), 1);
+        due("t", byTires.plan(8, 54, 9, 1), 0);
+        ShrugHills byHolds = hills("plain 3 by 3;topic t;topic u;person p at 1 1 tired 0;holds topic=0;");
+        due("u", byHolds.plan(8, 53, 9, 0), 1);
         ShrugHills by = hills("plain 3 by 3;topic t;topic u;person p at 1 1 tired 0;lifts topic*4;holds tired=1 and topic=1;");
         // u lifts 4, but is held once he is tired by one; t lifts nothing and tires.
         due("u, t, u", by.plan(8, 58, 9, NONE), 3);
@@ -603,6 +638,15 @@ public final class PromiseTest {
         due("no cell", x.way(0, 24), NONE);
         due("no cell", x.way(Integer.MIN_VALUE, Integer.MAX_VALUE), NONE);
         due("flat", hills("plain 7 by 7;").way(0, 54), 12);
+        // A wall in each second column, with a gap by turns at the bottom and at the top.
+        StringBuilder walls = new StringBuilder("plain 7 by 7;");
+        for (int column = 1; column < 7; column += 2) {
+            for (int row = 0; row < 6; row++) {
+                walls.append("high ").append(column).append(' ').append(column == 3 ? row + 1 : row).append(" 99;");
+            }
+        }
+        due("winding", hills(walls.toString()).way(0, 6), 30);
+        due("winding back", hills(walls.toString()).way(6, 0), 30);
     }
 
     static void promise18() {
@@ -617,6 +661,14 @@ public final class PromiseTest {
         due("no cell", x.pond(4, 0), NONE);
         due("no cell", x.pond(0, 3), NONE);
         due("no cell", x.pond(-1, 0), NONE);
+        // Down along all 49 cells but for the walls is too long to tell; a slope of a whole plain is not.
+        StringBuilder slope = new StringBuilder("plain 7 by 7;");
+        for (int column = 0; column < 7; column++) {
+            slope.append("high ").append(column).append(" 0 ").append(40 - column).append(';');
+            slope.append("high 6 ").append(column).append(' ').append(34 - column).append(';');
+        }
+        due("down the slope", hills(slope.toString()).pond(0, 0), 54);
+        due("first down, then along", hills(slope.toString()).pond(0, 1), 54);
     }
 
     static void promise19() {
@@ -637,6 +689,7 @@ public final class PromiseTest {
         due("both", two.keeps(0, 18, 2), 3);
         two.days(1);
         due("the other", two.keeps(16, 17, 1), 2);
+        due("v of seven", hills(FULL).keeps(53, 54, 1), 64);
         toDay(x, 998);
         due("day 999", x.keeps(8, 9, 1), 0);
         due("day 1000", x.keeps(8, 9, 2), NONE);
@@ -659,6 +712,11 @@ public final class PromiseTest {
         ShrugHills z = hills("plain 3 by 3;topic t;person p at 1 1 tired 0;person q at 1 0 tired 0;high 1 1 60;"
                 + "high 2 2 65;asks p of t;asks q of t;lifts 3;");
         due("p keeps silent", z.rest(2), 1);
+        ShrugHills full = hills("plain 7 by 7;topic t;person a at 0 6 tired 0;person b at 1 6 tired 0;"
+                + "person c at 2 6 tired 0;person d at 3 6 tired 0;person e at 4 6 tired 0;person q at 1 0 tired 0;"
+                + "person p at 1 1 tired 0;high 1 1 60;high 2 2 65;asks p of t;asks q of t;");
+        // p silent is at rest, too (64), but q silent has less bits.
+        due("of seven the last but one", full.rest(2), 32);
         toDay(z, 998);
         due("day 999", z.rest(1), 0);
         due("day 1000", z.rest(2), NONE);
@@ -753,6 +811,25 @@ public final class PromiseTest {
         x.see();
         due("day 999", x.who(0), 3);
         due("nobody", hills("plain 3 by 3;topic t;").who(0), 0);
+        ShrugHills full = hills(FULL);
+        due("all seven", full.who(4), 127);
+        Tape.put(full, 0, 5, 6, 53);
+        full.see();
+        due("v", full.who(4), 64);
+        int[] rows = new int[64];
+        for (int k = 0; k < 16; k++) {
+            rows[4 * k + 1] = 6;
+            rows[4 * k + 2] = 6;
+            rows[4 * k + 3] = 50;
+        }
+        Tape.put(full, rows);
+        full.see();
+        due("none moves 6 6", full.who(4), 127);
+        rows[61] = 5;
+        rows[63] = 53;
+        Tape.put(full, rows);
+        full.see();
+        due("the last row counts", full.who(4), 64);
     }
 
     static void promise23() {
@@ -787,9 +864,45 @@ public final class PromiseTest {
         due("behind day 2", slow.tells(0, 0), 3);
         due("the first cell", slow.tells(0, 1), 0);
         due("left", slow.tells(0, 2), 1);
+        for (int last = 29; last <= 30; last++) {
+            ShrugHills late = hills("plain 3 by 3;topic t;topic u;person p at 1 1 tired 0;person q at 1 0 tired 0;"
+                    + "asks p of u;lifts topic*3*(1-tired);holds topic=1 and day<" + last + ";");
+            due("30 days at most", late.tells(0, 0), last == 29 ? 30 : 0);
+            due("30 days at most", late.tells(0, 2), last == 29 ? 1 : 2);
+            due("no days before", late.tells(1, 2), 2);
+        }
+        ShrugHills full = hills(FULL);
+        due("seven", full.tells(0, 2), mostLeftByHand(full, 0));
         toDay(slow, 999);
         due("not beyond 999", slow.tells(0, 2), 2);
         due("now", slow.tells(0, 0), 0);
+    }
+
+    /** By asking each, looking at each cell now and on the days behind it, and undoing it. */
+    private static int mostLeftByHand(ShrugHills x, int topic) {
+        int fewest = Integer.MAX_VALUE;
+        int people = x.has(3);
+        int[][][] high = new int[people][31][49];
+        for (int p = 0; p < people; p++) {
+            x.asks(p, topic);
+            for (int n = 0; n <= 30; n++) {
+                for (int cell = 0; cell < 49; cell++) {
+                    high[p][n][cell] = x.later(cell % 7, cell / 7, n);
+                }
+            }
+            x.undo();
+        }
+        for (int n = 0; n <= 30; n++) {
+            for (int cell = 0; cell < 49; cell++) {
+                int[] counts = new int[100];
+                int most = 0;
+                for (int p = 0; p < people; p++) {
+                    most = Math.max(most, ++counts[high[p][n][cell]]);
+                }
+                fewest = Math.min(fewest, most);
+            }
+        }
+        return fewest;
     }
 
     static void promise24() {
@@ -885,6 +998,7 @@ public final class PromiseTest {
         due("free now", x.go(1, 1, 1), true);
         due("no cell", x.go(0, 3, 0), false);
         due("no cell", x.go(0, 0, 3), false);
+        due("the seventh is in it", hills(FULL).go(0, 6, 6), false);
         due("no cell", x.go(0, -1, 0), false);
         due("person 2", x.go(2, 0, 0), false);
         due("person -1", x.go(-1, 0, 0), false);
@@ -963,10 +1077,25 @@ public final class PromiseTest {
         due("refused", x.status(3), 3);
         due("without a plain", new ShrugHills().chance(1), NONE);
         crowdsByHand();
+        int[][] edges = {{0, 0, 0}, {0, 1, 1}, {99, 99, 0}, {99, 100, 1}};
+        for (int[] edge : edges) {
+            ShrugHills one = hills("plain 3 by 3;topic t;person p at 1 1 tired 0;crowd " + edge[1] + ";");
+            one.seed(seedOf(edge[0]));
+            due("a draw of " + edge[0] + " by crowd " + edge[1], one.chance(1), edge[2]);
+        }
         ShrugHills none = hills("plain 3 by 3;crowd 100;topic t;");
         due("nobody", none.chance(100), 0);
         toDay(none, 999);
         due("beyond 999", none.chance(1), NONE);
+    }
+
+    /** A seed whose draw of 100 is the one told. */
+    private static int seedOf(int draw) {
+        int seed = 0;
+        while (next(seed) / 64 % 100 != draw) {
+            seed++;
+        }
+        return seed;
     }
 
     private static long next(long x) {
@@ -1030,6 +1159,38 @@ public final class PromiseTest {
         }
         due("none", x.undo(), false);
         due("the sixth stays", x.person(0, 3), 1);
+        ShrugHills full = hills(FULL);
+        full.go(6, 0, 6);
+        full.teach(6, 4, 1);
+        for (int k = 0; k < 25; k++) {
+            full.days(1);
+        }
+        full.ease(6);
+        for (int k = 0; k < 20; k++) {
+            due("undone", full.undo(), true);
+            due("day by day", full.has(5), 25 - k);
+            due("tired", full.person(6, 2), 6);
+        }
+        due("none", full.undo(), false);
+        for (int k = 6; k < 76; k++) {
+            full.days(1);
+        }
+        for (int k = 0; k < 20; k++) {
+            due("undone", full.undo(), true);
+            due("day by day", full.has(5), 75 - k);
+        }
+        due("none", full.undo(), false);
+        ShrugHills last = hills(FULL);
+        last.go(6, 0, 6);
+        last.teach(6, 4, 1);
+        last.ease(6);
+        last.undo();
+        last.undo();
+        last.undo();
+        due("column", last.person(6, 0), 6);
+        due("row", last.person(6, 1), 6);
+        due("tired", last.person(6, 2), 6);
+        due("known", last.person(6, 3), 0);
         x.go(0, 2, 2);
         x.ease(1);
         x.undo();
@@ -1106,6 +1267,17 @@ public final class PromiseTest {
         due("and ahead of or", ask(x, "often all or all and not all"), 3);
         due("brackets", ask(x, "often [all or all] and not all"), 0);
         due("not", ask(x, "often not not tired=0"), 1);
+        due("knows none such", ask(x, "total knows 32"), 0);
+        due("lifts none such", ask(x, "total lifts 5+lifts 9999+lifts (0-1)"), 0);
+        due("less", ask(x, "often tired<4"), 1);
+        due("less", ask(x, "often tired<5"), 2);
+        due("more", ask(x, "often tired>4"), 1);
+        due("more", ask(x, "often tired>3"), 2);
+        due("like", ask(x, "often tired=4"), 1);
+        ShrugHills full = hills(FULL);
+        due("the last topic", ask(full, "total knows 4*10+knows 3"), 10);
+        due("the last topic", ask(full, "last lifts 4=3"), 6);
+        due("the last topic", ask(full, "total lifts 4"), 3 + 4 * 6 + 3);
         due("nothing is moved", x.has(7) * 1000 + x.has(6), 470);
         due("the tape went", x.end(1), false);
         x.days(3);
