@@ -871,26 +871,25 @@ public final class PromiseTest {
             due("30 days at most", late.tells(0, 2), last == 29 ? 1 : 2);
             due("no days before", late.tells(1, 2), 2);
         }
-        ShrugHills full = hills(FULL);
-        due("seven", full.tells(0, 2), mostLeftByHand(full, 0));
+        due("seven", hills(FULL).tells(0, 2), mostLeftByHand(FULL, 0));
         toDay(slow, 999);
         due("not beyond 999", slow.tells(0, 2), 2);
         due("now", slow.tells(0, 0), 0);
     }
 
-    /** By asking each, looking at each cell now and on the days behind it, and undoing it. */
-    private static int mostLeftByHand(ShrugHills x, int topic) {
+    /** Of a plain of 7 by 7, by asking each and looking at each cell now and on the days behind it. */
+    private static int mostLeftByHand(String text, int topic) {
         int fewest = Integer.MAX_VALUE;
-        int people = x.has(3);
+        int people = hills(text).has(3);
         int[][][] high = new int[people][31][49];
         for (int p = 0; p < people; p++) {
-            x.asks(p, topic);
             for (int n = 0; n <= 30; n++) {
+                ShrugHills x = hills(text);
+                x.asks(p, topic);
                 for (int cell = 0; cell < 49; cell++) {
                     high[p][n][cell] = x.later(cell % 7, cell / 7, n);
                 }
             }
-            x.undo();
         }
         for (int n = 0; n <= 30; n++) {
             for (int cell = 0; cell < 49; cell++) {

@@ -72,9 +72,10 @@ public final class TermsTest {
     }
 
     private static int[] heights(ShrugHills x) {
-        int[] all = new int[x.has(0) * x.has(1)];
+        int columns = x.has(0);
+        int[] all = new int[columns * x.has(1)];
         for (int cell = 0; cell < all.length; cell++) {
-            all[cell] = x.height(cell % x.has(0), cell / x.has(0));
+            all[cell] = x.height(cell % columns, cell / columns);
         }
         return all;
     }
@@ -88,7 +89,8 @@ public final class TermsTest {
     }
 
     private static int number(ShrugHills x, int cell) {
-        return cell / x.has(0) * 8 + cell % x.has(0);
+        int columns = x.has(0);
+        return cell / columns * 8 + cell % columns;
     }
 
     private static ShrugHills atDay(ShrugHills x, int day) {
@@ -954,13 +956,14 @@ public final class TermsTest {
         s.says("A PLAN for a CELL that must come up to a height, and a CELL that must stay as it is now, is a row of askings (3 at "
                 + "most; each a PERSON, a TOPIC; now, one after the other) behind which it is so: of the fewest, of like ones the "
                 + "first row (PERSON by PERSON, TOPIC by TOPIC).");
-        ShrugHills x = hills(land);
+        int topics = hills(land).has(2);
+        int people = hills(land).has(3);
         List<int[]> rows = new ArrayList<>();
         rows.add(new int[0]);
         for (int k = 0; k < rows.size(); k++) {
-            for (int one = 0; one < x.has(3) * x.has(2) && rows.get(k).length < 3; one++) {
+            for (int one = 0; one < people * topics && rows.get(k).length < 3; one++) {
                 int[] longer = Arrays.copyOf(rows.get(k), rows.get(k).length + 1);
-                longer[longer.length - 1] = one / x.has(2) * 8 + one % x.has(2);
+                longer[longer.length - 1] = one / topics * 8 + one % topics;
                 rows.add(longer);
             }
         }
@@ -975,9 +978,10 @@ public final class TermsTest {
         int[] now = behind.get(0);
         for (int up = 0; up < now.length; up++) {
             for (int stay = 0; stay < now.length; stay++) {
+                ShrugHills y = hills(land);
                 for (int more = 0; more <= 28; more += up % 2 == 0 ? 1 : 9) {
                     int height = Math.min(99, now[up] + more);
-                    planIs(x, up, height, stay, rows, behind);
+                    planIs(y, up, height, stay, rows, behind);
                 }
             }
         }
@@ -991,9 +995,11 @@ public final class TermsTest {
             }
         }
         String what = "plan " + up + " to " + height + ", " + stay + " stays";
-        s.due(what, x.plan(number(x, up), height, number(x, stay), NONE), found == null ? NONE : found.length);
+        int upNumber = number(x, up);
+        int stayNumber = number(x, stay);
+        s.due(what, x.plan(upNumber, height, stayNumber, NONE), found == null ? NONE : found.length);
         for (int k = 0; found != null && k < found.length; k++) {
-            s.due(what + ", asking " + k, x.plan(number(x, up), height, number(x, stay), k), found[k]);
+            s.due(what + ", asking " + k, x.plan(upNumber, height, stayNumber, k), found[k]);
         }
     }
 
@@ -1036,13 +1042,12 @@ public final class TermsTest {
         lands.add(WALLS);
         lands.add("plain 3 by 7;high 1 1 99;high 1 2 0;high 0 2 60;high 2 2 70;");
         for (String land : lands) {
-            ShrugHills x = hills(land);
-            if (x.has(4) > 0) {
+            int cells = heights(hills(land)).length;
+            for (int from = 0; from < cells; from += 1 + from % 3) {
+                ShrugHills x = hills(land);
                 x.days(7);
-            }
-            int[] high = heights(x);
-            for (int from = 0; from < high.length; from += 1 + from % 3) {
-                for (int to = 0; to < high.length; to += 1 + to % 2) {
+                int[] high = heights(x);
+                for (int to = 0; to < cells; to += 1 + to % 2) {
                     s.due("from " + from + " to " + to, x.way(number(x, from), number(x, to)), cost(high, x.has(0), from, to));
                 }
             }
@@ -1112,9 +1117,10 @@ public final class TermsTest {
                 + "fewest, of like ones the least bits.");
         int[] counts = {1, 2, 3, 5, 19, 20};
         for (String land : LANDS) {
-            ShrugHills x = hills(land);
-            int[] now = heights(x);
             for (int n : counts) {
+                ShrugHills x = hills(land);
+                int columns = x.has(0);
+                int[] now = heights(x);
                 List<Integer> sets = sets(x.has(3));
                 List<int[]> behind = new ArrayList<>();
                 for (int set : sets) {
@@ -1122,15 +1128,15 @@ public final class TermsTest {
                 }
                 for (int from = 0; from < now.length; from++) {
                     int to = (from * 5 + n) % now.length;
-                    int most = cost(now, x.has(0), from, to);
+                    int most = cost(now, columns, from, to);
                     int want = NONE;
                     for (int k = 0; k < sets.size() && want == NONE; k++) {
-                        want = cost(behind.get(k), x.has(0), from, to) <= most ? sets.get(k) : NONE;
+                        want = cost(behind.get(k), columns, from, to) <= most ? sets.get(k) : NONE;
                     }
                     s.due("from " + from + " to " + to + ", " + n + " days", x.keeps(number(x, from), number(x, to), n), want);
                 }
+                s.due("nothing is done", x.has(5) + x.has(7) + x.has(9), 0);
             }
-            s.due("nothing is done", x.has(5) + x.has(7) + x.has(9), 0);
         }
         // Both lift 1 0; to come from there down to 1 1 costs as much as to go up ahead of it, if one of them does not.
         String like = "plain 3 by 3;topic t;person p at 0 0 tired 0;person q at 2 0 tired 0;asks p of t;asks q of t;high 1 0 49;";
@@ -1197,8 +1203,8 @@ public final class TermsTest {
                 for (int p = 0; p < behind.length; p++) {
                     behind[p] = behindAsking(land, p, topic);
                 }
-                seen(x, topic, behind);
-                telling(x, topic, behind);
+                seen(hills(land), topic, behind);
+                telling(hills(land), topic, behind);
             }
         }
     }

@@ -92,10 +92,13 @@ final class Twins {
         s.due(what + " the tape's answer", x.ask(), twin.ask());
         s.due(what + " by the seed", x.chance(3), twin.chance(3));
         same(s, what + " by the seed", sight(x), sight(twin));
-        for (int k = 0; k < 21; k++) {
-            s.due(what + " undone", x.undo(), twin.undo());
-            s.due(what + " image", x.image(), twin.image());
-            same(s, what + " undone", octets(x), octets(twin));
+        boolean more = true;
+        for (int k = 0; k < 21 && more; k++) {
+            more = x.undo();
+            s.due(what + " undone", more, twin.undo());
+            if (more) {
+                same(s, what + " undone", octets(x, x.image()), octets(twin, twin.image()));
+            }
         }
     }
 
@@ -106,46 +109,50 @@ final class Twins {
         }
     }
 
-    static long[] octets(ShrugHills x) {
-        List<Long> seen = new ArrayList<>();
-        for (int k = 0; x.octet(k) != -1; k++) {
-            seen.add((long) x.octet(k));
+    /** The first n bytes of the latest image. */
+    private static long[] octets(ShrugHills x, int n) {
+        long[] bytes = new long[n];
+        for (int k = 0; k < n; k++) {
+            bytes[k] = x.octet(k);
         }
-        return row(seen);
+        return bytes;
     }
 
     private static long[] row(List<Long> seen) {
         return seen.stream().mapToLong(Long::longValue).toArray();
     }
 
-    /** What the calls tell that change nothing. */
+    /** What the calls tell that change nothing; few enough of them that an object is looked at twice. */
     static long[] sight(ShrugHills x) {
         List<Long> seen = new ArrayList<>();
+        int[] has = new int[10];
         for (int what = 0; what < 10; what++) {
-            seen.add((long) x.has(what));
+            has[what] = x.has(what);
+            seen.add((long) has[what]);
         }
-        for (int cell = 0; cell < x.has(0) * x.has(1); cell++) {
-            seen.add((long) x.height(cell % x.has(0), cell / x.has(0)));
+        for (int cell = 0; cell < has[0] * has[1]; cell++) {
+            seen.add((long) x.height(cell % has[0], cell / has[0]));
         }
-        for (int k = 0; k < x.has(7) * 4; k++) {
+        for (int k = 0; k < has[7] * 4; k++) {
             seen.add((long) x.kept(k / 4, k % 4));
         }
-        for (int k = 0; k < x.has(4) * 2; k++) {
+        for (int k = 0; k < has[4] * 2; k++) {
             seen.add((long) x.list(k / 2, k % 2));
         }
-        for (int person = 0; person < x.has(3); person++) {
+        for (int person = 0; person < has[3]; person++) {
             seen.add((long) x.letter(1, person, 0));
             for (int what = 0; what < 4; what++) {
                 seen.add((long) x.person(person, what));
             }
         }
-        for (int topic = 0; topic < x.has(2); topic++) {
+        for (int topic = 0; topic < has[2]; topic++) {
             seen.add((long) x.letter(0, topic, 0));
             seen.add((long) x.who(topic));
             seen.add((long) x.tells(topic, 1));
         }
-        for (long octet : octets(x)) {
-            seen.add(octet);
+        // As many as an image of this plain has, and one more.
+        for (int k = 0; k < 4 + has[0] * has[1] + 4 * has[3]; k++) {
+            seen.add((long) x.octet(k));
         }
         return row(seen);
     }
