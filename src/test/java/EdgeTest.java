@@ -231,6 +231,7 @@ public final class EdgeTest {
         s.due("13", x.end(13), true);
         s.due("come behind the 13", x.feed(0x20202020, 0x20202020, 0x20202020, 0x20202020, 0x20202020), 33);
         s.due("what was cut off is gone", x.plain(), 1);
+        cutOff();
         s.says("false, refused (0), if it has not so many, or n is below 0");
         int[] wrong = {-1, -2, LEAST, 22, 23, 1600, 1601, GREATEST};
         for (int n : wrong) {
@@ -248,6 +249,30 @@ public final class EdgeTest {
         Tape.put(most, blanks(1600));
         s.due("1601", most.end(1601), false);
         s.due("1600", most.end(1600), true);
+    }
+
+    /** What was cut off would go on with the number, word, mark or blank that the tape ends with. */
+    private static void cutOff() {
+        String[] texts = {"total 1234", "total day  ", "total 1+1+1", "total known"};
+        int[][] lengths = {{7, 8, 9}, {9, 10, 11}, {7, 8, 9}, {8, 9, 11}};
+        long[][] answers = {{2, 24, 246}, {0, 0, 0}, {2, NOTHING, 4}, {NOTHING, NOTHING, 1}};
+        for (int k = 0; k < 4; k++) {
+            for (int i = 0; i < 3; i++) {
+                ShrugHills x = hills(PAIR);
+                Tape.put(x, texts[k]);
+                x.end(lengths[k][i]);
+                s.due(lengths[k][i] + " bytes of " + texts[k], x.ask(), answers[k][i]);
+            }
+        }
+        String high = "plain 3 by 3;high 0 0 5099";
+        for (int n = 22; n <= 26; n++) {
+            ShrugHills x = new ShrugHills();
+            Tape.put(x, high);
+            x.end(n);
+            x.plain();
+            s.due("fault of " + n + " bytes", x.fault(0), n > 24 ? 2 : 1);
+            s.due("its place", x.fault(1), n > 24 ? 22 : n);
+        }
     }
 
     // ---- promises 4 and 5
@@ -328,6 +353,8 @@ public final class EdgeTest {
         s.due("no person", x.person(0, 0), NONE);
         s.due("no row", x.list(0, 0), NONE);
         s.due("nothing kept", x.kept(0, 0), NONE);
+        plainsInTurn();
+        topicsNoMore();
         s.says("the seed stays");
         ShrugHills seeded = new ShrugHills();
         seeded.seed(4711);
@@ -340,6 +367,44 @@ public final class EdgeTest {
         ShrugHills first = hills(Twins.PLAIN);
         s.due("not that at first", first.chance(40) == seeded.has(9)
                 && Arrays.equals(Twins.sight(first), Twins.sight(later)), false);
+    }
+
+    /** Plains and what is none by turns on one object: the last plain is as on a new object. */
+    private static void plainsInTurn() {
+        String other = "plain 4 by 5;topic a;topic b;topic c;person z at 3 3 tired 9;person y at 0 0 tired 8;person x at 1 1 tired 7;"
+                + "high 0 0 1;high 2 1 99;knows z of b;knows z of c;asks z of a;asks y of c;asks x of b;lifts side/9;tires 9-tired;"
+                + "holds height=1;crowd 60;";
+        String[] texts = {PAIR + "lifts 2;tires 5;holds day=3;crowd 100;", other, PAIR, other + ".", "plain 7 by 7;"};
+        int[][] turns = {{0, 0}, {0, 0, 0}, {1, 1, 1}, {0, 1, 0}, {0, 1, 2}, {1, 2, 2}, {3, 0}, {3, 3, 0}, {3, 1}, {3, 2}, {0, 3, 0},
+            {0, 3, 1}, {0, 3, 2}, {1, 3, 3, 2}, {1, 4, 2}, {1, 4, 4, 0}, {0, 0, 4}, {0, 1, 4}, {3, 4}, {3, 3, 4}, {4, 1, 3, 0, 3, 2}};
+        for (int[] turn : turns) {
+            ShrugHills x = new ShrugHills();
+            int statements = NONE;
+            for (int k : turn) {
+                Tape.put(x, texts[k]);
+                statements = x.plain();
+                s.due("a fault in turn " + Arrays.toString(turn), x.fault(0), k == 3 ? 1 : 0);
+            }
+            String last = texts[turn[turn.length - 1]];
+            ShrugHills fresh = hills(last);
+            s.due("statements", statements, last.length() - last.replace(";", "").length());
+            Twins.same(s, "in turn " + Arrays.toString(turn), Twins.sight(x), Twins.sight(fresh));
+            s.due("days", x.days(9), fresh.days(9));
+            s.due("by the seed", x.chance(9), fresh.chance(9));
+            s.due("behind days", Arrays.equals(image(x), image(fresh)), true);
+        }
+    }
+
+    /** What was known or would be lifted by the topics of an earlier plain is not told of one with fewer. */
+    private static void topicsNoMore() {
+        ShrugHills x = hills(FULL);
+        s.due("te", ask(x, "total lifts 4") * 10 + ask(x, "total knows 4"), 301);
+        Tape.put(x, "plain 3 by 3;topic t;person p at 1 1 tired 0;");
+        x.plain();
+        for (int topic = 0; topic < 6; topic++) {
+            s.due("lifts " + topic, ask(x, "total lifts " + topic), topic == 0 ? 6 : 0);
+            s.due("knows " + topic, ask(x, "total knows " + topic), 0);
+        }
     }
 
     private static void faults() {
@@ -576,6 +641,10 @@ public final class EdgeTest {
             s.due("the latest of " + count, many.kept(Math.min(count, 40) - 1, 0), count - 1);
             s.due("no more of " + count, many.kept(Math.min(count, 40), 0), NONE);
         }
+        int[] counts = {39, 40, 41, 42, 79, 80, 81, 100};
+        for (int count : counts) {
+            keptOf(count);
+        }
         s.says("NONE when there is none such, or for others.");
         int[] none = {-1, 4, 5, LEAST, GREATEST};
         int[] others = {-1, 4, 5, LEAST, GREATEST};
@@ -586,6 +655,28 @@ public final class EdgeTest {
             s.due("what " + others[k], x.kept(3, others[k]), NONE);
         }
         s.due("of none", hills(ONE).kept(0, 0), NONE);
+    }
+
+    /** All that is told of so many shrugs, of which each is unlike those next to it. */
+    private static void keptOf(int count) {
+        ShrugHills x = hills(FULL.substring(0, FULL.indexOf("asks")) + "asks a of tb;asks b of tc;asks g of ta;asks c of td;asks e of te;"
+                + "lifts (day*5+topic)/3-(day*5+topic)/30*10;high 6 0 99;high 5 0 99;high 4 0 99;high 3 0 99;");
+        int[][] list = {{0, 1}, {1, 2}, {6, 0}, {2, 3}, {4, 4}};
+        s.due("shrugs", x.days(count), count);
+        for (int k = 0; k < 41; k++) {
+            int day = k + Math.max(0, count - 40);
+            boolean told = k < 40 && day < count;
+            int[] asked = list[day % 5];
+            // Those who have one beside them alone are a, g.
+            int each = Math.min(9, (day * 5 + asked[1]) / 3 - (day * 5 + asked[1]) / 30 * 10);
+            int[] want = {day, asked[0], asked[1], asked[0] % 6 == 0 ? each : 2 * each};
+            for (int what = 0; what < 4; what++) {
+                // In longer runs cells come up to 99, so that less is lifted.
+                if (what < 3 || count <= 42) {
+                    s.due("kept " + k + " " + what + " of " + count, x.kept(k, what), told ? want[what] : NONE);
+                }
+            }
+        }
     }
 
     // ---- promises 13 to 15
@@ -849,6 +940,8 @@ public final class EdgeTest {
         s.due("19", late.rest(19), 0);
         s.due("20", late.rest(20), 1);
         s.due("all stays", late.has(5) + late.has(7) + late.has(9), 0);
+        s.due("two", hills("plain 3 by 3;topic t;person p at 2 1 tired 0;person q at 2 2 tired 0;person r at 2 0 tired 0;"
+                + "person v at 0 2 tired 0;high 1 1 47;asks p of t;asks v of t;asks q of t;").rest(3), 3);
         s.says("NONE when no set is, n can't be, or without a plain");
         bounds("rest", 1, 20, ShrugHills::rest);
         s.due("without a plain", new ShrugHills().rest(1), NONE);
@@ -986,6 +1079,16 @@ public final class EdgeTest {
             s.due("30 days ahead, what " + what, last.tells(0, what), late[what]);
         }
         s.due("all stays", last.has(5) + last.has(7) + last.has(9), 0);
+        // Of those who hold it nothing tells: all are left, by the first cell now.
+        for (int people = 1; people <= 7; people++) {
+            StringBuilder text = new StringBuilder("plain 7 by 7;topic t;holds all;");
+            for (int p = 0; p < people; p++) {
+                text.append("person ").append((char) ('a' + p)).append(" at ").append(p).append(" 3 tired 0;asks a of t;");
+            }
+            ShrugHills y = hills(text.toString());
+            s.due("all of " + people, y.tells(0, 2), people);
+            s.due("the first cell now", y.tells(0, 0) * 100 + y.tells(0, 1), 0);
+        }
         s.says("NONE without any, when there is none such, or for others.");
         see(x, 0, 0, 0, 99);
         for (int what = 0; what < 3; what++) {
@@ -1360,6 +1463,9 @@ public final class EdgeTest {
         s.due("total", ask(full, "total tired"), 24);
         s.due("most", ask(full, "most tired"), 9);
         s.due("least", ask(full, "least 9-tired"), 0);
+        s.due("least", ask(full, "least 12-tired"), 3);
+        s.due("least of one", ask(hills(ONE), "least 7"), 7);
+        s.due("most of one", ask(hills(ONE), "most 0-7"), -7);
         s.due("the greatest total", ask(full, "total 9999*9999"), 7000000);
         s.says("NONE of first, last, when its TEST holds for none");
         s.due("first", ask(full, "first tired>9"), NONE);
@@ -1550,6 +1656,15 @@ public final class EdgeTest {
         seven[75] = 0;
         seven[76] = 0;
         s.due("the seventh with the first", on(hills(FULL), checked(seven)), false);
+        for (int p = 0; p < 7; p++) {
+            for (int other = 0; other < p; other++) {
+                int[] two = image(hills(FULL));
+                two[51 + 4 * p] = two[51 + 4 * other];
+                s.due(p + " in the column of " + other, on(hills(FULL), checked(two)), true);
+                two[52 + 4 * p] = two[52 + 4 * other];
+                s.due(p + " in the cell of " + other, on(hills(FULL), checked(two)), false);
+            }
+        }
         seven[75] = 6;
         seven[76] = 0;
         seven[78] = 31;

@@ -2,16 +2,17 @@ import java.util.ArrayList;
 import java.util.List;
 import java.util.Random;
 
-/** Long runs of calls, ordinary and wrong ones, whose answers must be those of Model. */
+/** Runs of as many calls as an object is used for, ordinary and wrong ones, whose answers must be those of Model. */
 public final class ModelTest {
-    private static final int RUNS = 1500;
-    private static final int CALLS = 250;
+    private static final int RUNS = 3000;
+    private static final int CALLS = 512;
     private final Random random;
     private final int run;
     private final ShrugHills x = new ShrugHills();
     private final Model m = new Model();
     private final List<String> trace = new ArrayList<>();
     private boolean wrong;
+    private int calls;
     private int topics;
     private int people;
 
@@ -51,9 +52,11 @@ public final class ModelTest {
         return n <= 0 ? up(2) : up(n);
     }
 
+    /** What later calls answer is free. */
     private void due(String call, long got, long want) {
         trace.add(call + " -> " + got);
-        if (got != want && !wrong) {
+        calls++;
+        if (got != want && !wrong && calls <= CALLS) {
             wrong = true;
             System.out.println("run " + run + ": " + call + " answered " + got + ", the model says " + want);
             for (String line : trace.subList(Math.max(0, trace.size() - 12), trace.size())) {
@@ -79,14 +82,13 @@ public final class ModelTest {
     }
 
     private void go() {
-        for (int i = 0; i < CALLS && !wrong; i++) {
-            if (i == 2 || up(60) == 0) {
+        for (int i = 0; calls < CALLS && !wrong; i++) {
+            if (i == 2 || up(80) == 0) {
                 newPlain();
             } else {
                 call();
             }
         }
-        look();
     }
 
     private void newPlain() {
@@ -108,29 +110,57 @@ public final class ModelTest {
     }
 
     private void look() {
-        for (int k = -1; k < 11; k++) {
-            due("has " + k, x.has(k), m.has(k));
-            due("status " + k, x.status(k), m.status(k));
+        switch (up(6)) {
+            case 0 -> {
+                for (int k = -1; k < 11; k++) {
+                    due("has " + k, x.has(k), m.has(k));
+                }
+            }
+            case 1 -> {
+                for (int k = -1; k < 7; k++) {
+                    due("status " + k, x.status(k), m.status(k));
+                }
+            }
+            case 2 -> lookAtCells();
+            case 3 -> lookAtPeople();
+            case 4 -> lookAtNames();
+            default -> lookAtKept();
         }
+    }
+
+    private void lookAtCells() {
+        int r = up(8) == 0 ? -1 : up(8);
         for (int c = -1; c < 8; c++) {
-            for (int r = -1; r < 8; r++) {
-                due("height " + c + " " + r, x.height(c, r), m.height(c, r));
-                due("pond " + c + " " + r, x.pond(c, r), m.pond(c, r));
-            }
+            due("height " + c + " " + r, x.height(c, r), m.height(c, r));
+            due("pond " + c + " " + r, x.pond(c, r), m.pond(c, r));
         }
-        for (int p = -1; p < 8; p++) {
-            for (int k = -1; k < 7; k++) {
-                due("person " + p + " " + k, x.person(p, k), m.person(p, k));
-                due("would " + p + " " + k, x.would(p, k), m.would(p, k));
-                due("letter 0 " + p + " " + k, x.letter(0, p, k), m.letter(0, p, k));
-                due("letter 1 " + p + " " + k, x.letter(1, p, k), m.letter(1, p, k));
-                due("letter 2 " + p + " " + k, x.letter(2, p, k), m.letter(2, p, k));
-            }
+    }
+
+    private void lookAtPeople() {
+        int p = arg(people);
+        for (int k = -1; k < 6; k++) {
+            due("person " + p + " " + k, x.person(p, k), m.person(p, k));
+            due("would " + p + " " + k, x.would(p, k), m.would(p, k));
         }
-        for (int k = -1; k < 42; k++) {
-            for (int what = -1; what < 5; what++) {
+    }
+
+    private void lookAtNames() {
+        int kind = arg(2);
+        int which = arg(kind == 0 ? topics : people);
+        for (int k = -1; k < 7; k++) {
+            due("letter " + kind + " " + which + " " + k, x.letter(kind, which, k), m.letter(kind, which, k));
+        }
+        int row = arg(13);
+        for (int what = -1; what < 3; what++) {
+            due("list " + row + " " + what, x.list(row, what), m.list(row, what));
+        }
+    }
+
+    private void lookAtKept() {
+        due("has 7", x.has(7), m.has(7));
+        for (int k = up(4) - 1; k < 42; k += 1 + up(12)) {
+            for (int what = rarely() ? -1 : 0; what < 4; what++) {
                 due("kept " + k + " " + what, x.kept(k, what), m.kept(k, what));
-                due("list " + k + " " + what, x.list(k, what), m.list(k, what));
             }
         }
     }
@@ -217,7 +247,7 @@ public final class ModelTest {
                 int n = up(6) == 0 ? random.nextInt() : up(30) - 3;
                 due("end " + n, x.end(n), m.end(n));
                 int[] c = {random.nextInt(), random.nextInt(), random.nextInt(), random.nextInt(), random.nextInt()};
-                for (int k = up(8) == 0 ? 81 : up(2); k > 0; k--) {
+                for (int k = up(40) == 0 ? 81 : up(2); k > 0; k--) {
                     due("feed", x.feed(c[0], c[1], c[2], c[3], c[4]), m.feed(c));
                 }
                 due("end 0", x.end(0), m.end(0));
@@ -255,7 +285,7 @@ public final class ModelTest {
 
     private void image() {
         due("image()", x.image(), m.image());
-        for (int k = -1; k < 82; k++) {
+        for (int k = up(8) - 2; k < 82; k += 1 + up(up(6) == 0 ? 1 : 30)) {
             due("octet " + k, x.octet(k), m.octet(k));
         }
         if (up(3) != 0) {

@@ -183,6 +183,16 @@ public final class TermsTest {
         s.says("knows NAME of NAME (a PERSON, a TOPIC; not told already)");
         fine(BARE + both + "knows p of t;knows p of u;knows q of t;knows q of u;");
         faultAt(3, both + "knows p of t;knows q of t;knows p of ^t;");
+        String five = "topic a;topic b;topic c;topic d;topic e;person p at 0 0 tired 0;person q at 1 0 tired 0;";
+        for (char topic = 'a'; topic <= 'e'; topic++) {
+            faultAt(3, five + "knows p of " + topic + ";knows p of ^" + topic + ";");
+            fine(BARE + five + "knows p of " + topic + ";knows q of " + topic + ";");
+            for (char other = 'a'; other <= 'e'; other++) {
+                if (other != topic) {
+                    fine(BARE + five + "knows p of " + topic + ";knows p of " + other + ";");
+                }
+            }
+        }
         faultAt(3, both + "knows ^t of t;");
         faultAt(3, both + "knows p of ^q;");
         faultAt(3, both + "knows ^x of t;");
@@ -510,6 +520,13 @@ public final class TermsTest {
             fault(ahead + "00000" + behind, 1, numbered ? at + 4 : at);
             fault(ahead + "zzzzzzz" + behind, 1, named ? at + 6 : at);
             fault(ahead + "column" + behind, 1, at);
+            if (isSign(tokens[k].charAt(0)) && !named && !Character.isDigit(tokens[k].charAt(0))) {
+                // A word that goes on is another word, whole.
+                fault(ahead + tokens[k] + "x" + behind, 1, at);
+                fault(ahead + tokens[k] + "xx" + behind, 1, at);
+                fault(ahead + tokens[k].substring(0, tokens[k].length() - 1) + behind, 1, at);
+            }
+            wrongBytes(ahead.toString(), behind);
             if (k > 0 && !before.equals(";")) {
                 fault(ahead.toString(), 1, at);
                 fault(ahead.substring(0, at - 1), 1, at - 1);
@@ -517,6 +534,15 @@ public final class TermsTest {
                 fine(ahead.toString());
             }
             ahead.append(tokens[k]).append(' ');
+        }
+    }
+
+    /** Bytes that are in no text, whatever is asked where they stand. */
+    private static void wrongBytes(String ahead, String behind) {
+        for (int b = 0; b < 256; b++) {
+            if (b != 10 && b != 32 && !isSign((char) b) && ";+-*/()[],<>=".indexOf(b) < 0) {
+                fault(ahead + (char) b + behind, 1, ahead.length());
+            }
         }
     }
 
@@ -1152,7 +1178,13 @@ public final class TermsTest {
                 + "CELL higher behind n DAYS if he alone did otherwise: of the fewest, of like ones the least bits.");
         int[] counts = {1, 2, 3, 4, 7, 19, 20};
         int some = 0;
-        for (String land : LANDS) {
+        int two = 0;
+        List<String> lands = new ArrayList<>(Arrays.asList(LANDS));
+        lands.add("plain 3 by 3;topic t;person p at 2 1 tired 0;person q at 2 2 tired 0;person r at 2 0 tired 0;person v at 0 2 tired 0;"
+                + "high 1 1 47;asks p of t;asks v of t;asks q of t;");
+        lands.add("plain 3 by 3;topic t;person p at 0 0 tired 0;person q at 0 2 tired 0;person r at 1 0 tired 0;high 0 2 58;high 2 2 58;"
+                + "asks r of t;asks p of t;asks q of t;");
+        for (String land : lands) {
             ShrugHills x = hills(land);
             for (int n : counts) {
                 int people = x.has(3);
@@ -1173,10 +1205,12 @@ public final class TermsTest {
                 }
                 s.due(n + " days", x.rest(n), want);
                 some += want > 0 ? 1 : 0;
+                two += Integer.bitCount(Math.max(0, want)) > 1 ? 1 : 0;
             }
             s.due("nothing is done", x.has(5) + x.has(7) + x.has(9), 0);
         }
         s.due("some keep silent", some > 0, true);
+        s.due("two keep silent", two > 0, true);
     }
 
     // ---- III: what is seen, what tells
@@ -1312,6 +1346,8 @@ public final class TermsTest {
         answers("total tired", 24);
         answers("most tired", 9);
         answers("least tired", 0);
+        answers("least tired+1", 1);
+        answers("least 9999-tired", 9990);
         answers("most 0-1-tired", -1);
         answers("least 0-tired", -9);
         answers("total 0-9999*9999", -7000000);
@@ -1400,6 +1436,27 @@ public final class TermsTest {
                 questionFault(1, more ? "total " + word + "^" : "total ^" + word);
             } else {
                 questionFault(0, "total " + word);
+            }
+        }
+        for (String word : OWN_WORDS) {
+            questionFault(1, "total ^" + word + "x");
+            questionFault(1, "total ^" + word + "xx");
+            questionFault(1, "first all ^" + word + "x");
+        }
+        String[] heads = {"first", "last", "often", "total", "most", "least"};
+        for (String head : heads) {
+            questionFault(1, "^" + head + "x 1=1");
+            questionFault(1, "^" + head + "xx 1=1");
+            questionFault(1, "^" + head + "xxx 1=1");
+            questionFault(1, "^" + head.substring(1) + " 1=1");
+            questionFault(1, "total ^" + head);
+        }
+        for (int b = 0; b < 256; b++) {
+            if (b != 10 && b != 32 && b != '^' && !isSign((char) b) && ";+-*/()[],<>=".indexOf(b) < 0) {
+                String[] places = {"^~", "total ^~", "total 1^~", "first ^~", "first 1=^~", "total knows ^~", "total min^~"};
+                for (String place : places) {
+                    questionFault(1, place.replace('~', (char) b));
+                }
             }
         }
         s.says("4 the 7th of ( [ not knows lifts that is open at once (not until its FACT, knows, lifts until its PART ends), at it.");
