@@ -1,9 +1,14 @@
 import java.util.ArrayList;
 import java.util.List;
 import java.util.Random;
+import java.util.regex.MatchResult;
+import java.util.regex.Pattern;
 
 /** Makes plains and questions at random, and spoils them. */
 final class Texts {
+    private static final Pattern NUMBER = Pattern.compile("[0-9]+");
+    private static final Pattern WORD = Pattern.compile("[a-z]+");
+    private static final String[] NUMBERS = {"0", "2", "3", "7", "8", "9", "10", "99", "100", "101", "9999", "10000", "00000"};
     private final Random random;
     private final List<String> topics = new ArrayList<>();
     private final List<String> people = new ArrayList<>();
@@ -197,12 +202,53 @@ final class Texts {
         return up(2) == 0 ? fact() : String.valueOf(up(6) == 0 ? up(10000) : up(10));
     }
 
-    /** A byte changed, taken away, put in, or the end cut off. */
+    /** A byte changed, taken away, put in, the end cut off; or a number, a word, a statement that is not due there. */
     String spoiled(String text) {
         if (text.isEmpty()) {
             return text;
         }
-        int at = up(text.length());
+        switch (up(9)) {
+            case 0:
+                return withOther(text, NUMBER, NUMBERS[up(NUMBERS.length)]);
+            case 1:
+                return withOther(text, WORD, oneOf(text, WORD));
+            case 2:
+                return withAgain(text);
+            default:
+                return spoiledAt(text, up(text.length()));
+        }
+    }
+
+    private List<MatchResult> all(String text, Pattern kind) {
+        return kind.matcher(text).results().toList();
+    }
+
+    private String oneOf(String text, Pattern kind) {
+        List<MatchResult> found = all(text, kind);
+        return found.isEmpty() ? "" : found.get(up(found.size())).group();
+    }
+
+    /** One of a kind in the text exchanged. */
+    private String withOther(String text, Pattern kind, String other) {
+        List<MatchResult> found = all(text, kind);
+        if (found.isEmpty()) {
+            return text;
+        }
+        MatchResult one = found.get(up(found.size()));
+        return text.substring(0, one.start()) + other + text.substring(one.end());
+    }
+
+    /** A statement once more, anywhere; or as many at the end that there are 79 to 81. */
+    private String withAgain(String text) {
+        List<String> statements = new ArrayList<>(List.of(text.split(";")));
+        if (up(2) == 0) {
+            statements.add(up(statements.size() + 1), statements.get(up(statements.size())));
+            return String.join(";", statements) + ";";
+        }
+        return text + "crowd 1;".repeat(Math.max(0, 79 + up(3) - statements.size())) + (up(2) == 0 ? "" : " x");
+    }
+
+    private String spoiledAt(String text, int at) {
         String signs = " ;abcpt019()[],<>=+-*/\n~A";
         String sign = up(30) == 0 ? String.valueOf((char) up(256)) : String.valueOf(signs.charAt(up(signs.length())));
         String[] words = {"topic", "not", "person", "12345", "abcdefg", "side", "all", "knows", "0", "of", " min(", "]"};
